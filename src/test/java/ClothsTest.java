@@ -1,0 +1,211 @@
+/** Promises 13 to 19: cloths. */
+public final class ClothsTest {
+    private static final Due due = new Due();
+
+    public static void main(String[] args) {
+        cloth();
+        strength();
+        losesWithoutText();
+        losesAtTheEdges();
+        losesByText();
+        dab();
+        warm();
+        touch();
+        days();
+        lastDay();
+        due.end();
+    }
+
+    private static void cloth() {
+        ScentCloth x = new ScentCloth();
+        for (int i = 0; i < 6; i++) {
+            due.is("cloth " + i, x.cloth(), i);
+        }
+        due.is("a seventh", x.cloth(), Due.FULL);
+        due.is("six", x.count(1), 6);
+        due.is("not warm at first", x.warm(5, 1), 0);
+    }
+
+    private static void strength() {
+        ScentCloth x = new ScentCloth();
+        x.cloth();
+        due.is("no scent yet", x.strength(0, 0), Due.BAD);
+        x.scent(0, 0);
+        due.is("0 of a scent that came later", x.strength(0, 0), 0);
+        x.dab(0, 0, 7);
+        due.is("strength(0, 0)", x.strength(0, 0), 7);
+        due.is("strength(0, 1)", x.strength(0, 1), Due.BAD);
+        due.is("strength(1, 0)", x.strength(1, 0), Due.BAD);
+        due.is("strength(-1, 0)", x.strength(-1, 0), Due.BAD);
+        due.is("strength(0, -1)", x.strength(0, -1), Due.BAD);
+    }
+
+    /** Strength 250, pace 13, warm 10: 250 * 23 / 100 + 1 = 58. */
+    private static void losesWithoutText() {
+        ScentCloth x = new ScentCloth();
+        x.cloth();
+        x.warm(0, 10);
+        int[] even = {58, 29, 71, 28, 142, 0};
+        for (int kind = 0; kind < 6; kind++) {
+            x.scent(kind, 13);
+            x.dab(0, kind, 250);
+            due.is("loses on an even day, kind " + kind, x.loses(0, kind), even[kind]);
+        }
+        x.days(1);
+        for (int kind = 0; kind < 6; kind++) {
+            due.is("left of kind " + kind, x.strength(0, kind), 250 - even[kind]);
+        }
+        due.is("musk on an odd day", x.loses(0, 5), 58);
+        due.is("loses(0, 6)", x.loses(0, 6), Due.BAD);
+        due.is("loses(1, 0)", x.loses(1, 0), Due.BAD);
+        due.is("loses(-1, 0)", x.loses(-1, 0), Due.BAD);
+        due.is("loses(0, -1)", x.loses(0, -1), Due.BAD);
+    }
+
+    private static void losesAtTheEdges() {
+        ScentCloth x = new ScentCloth();
+        x.cloth();
+        x.cloth();
+        for (int kind = 0; kind < 6; kind++) {
+            x.scent(kind, 50);
+            due.is("nothing to lose, kind " + kind, x.loses(0, kind), 0);
+            x.dab(0, kind, 1);
+            x.dab(1, kind, 999);
+        }
+        x.warm(1, 50);
+        int[] ofOne = {1, 0, 1, 0, 1, 0};
+        int[] ofAll = {999, 499, 999, 498, 999, 0};
+        for (int kind = 0; kind < 6; kind++) {
+            due.is("of strength 1, kind " + kind, x.loses(0, kind), ofOne[kind]);
+            due.is("of strength 999 at 100 of 100, kind " + kind, x.loses(1, kind), ofAll[kind]);
+        }
+    }
+
+    private static void losesByText() {
+        ScentCloth x = new ScentCloth();
+        x.cloth();
+        for (int kind = 0; kind < 6; kind++) {
+            x.scent(kind, 7);
+            x.dab(0, kind, 100);
+        }
+        x.warm(0, 3);
+        due.is("text", Due.read(x, "fade s/10+p*w"), 0);
+        int[] lost = {31, 15, 38, 14, 76, 0};
+        for (int kind = 0; kind < 6; kind++) {
+            due.is("by text, kind " + kind, x.loses(0, kind), lost[kind]);
+        }
+        Due.read(x, "fade 0-5");
+        int[] none = {0, 0, 7, 0, 14, 0};
+        for (int kind = 0; kind < 6; kind++) {
+            due.is("a text below 0, kind " + kind, x.loses(0, kind), none[kind]);
+        }
+        Due.read(x, "fade 9999");
+        int[] most = {100, 50, 100, 49, 100, 0};
+        for (int kind = 0; kind < 6; kind++) {
+            due.is("a text above strength, kind " + kind, x.loses(0, kind), most[kind]);
+        }
+    }
+
+    private static void dab() {
+        ScentCloth x = new ScentCloth();
+        x.cloth();
+        x.scent(0, 0);
+        due.is("dab(0, 0, 999)", x.dab(0, 0, 999), 999);
+        due.is("no more than 999", x.dab(0, 0, 1), 999);
+        due.is("dab(0, 0, -998)", x.dab(0, 0, -998), 1);
+        due.is("no less than 0", x.dab(0, 0, -2), 0);
+        due.is("dab(0, 0, 0)", x.dab(0, 0, 0), 0);
+        due.is("dab(0, 0, -999)", x.dab(0, 0, -999), 0);
+        due.is("dab(0, 0, 1000)", x.dab(0, 0, 1000), Due.BAD);
+        due.is("dab(0, 0, -1000)", x.dab(0, 0, -1000), Due.BAD);
+        due.is("dab(0, 1, 1)", x.dab(0, 1, 1), Due.BAD);
+        due.is("dab(1, 0, 1)", x.dab(1, 0, 1), Due.BAD);
+        due.is("dab(-1, 0, 1)", x.dab(-1, 0, 1), Due.BAD);
+        due.is("dab(0, -1, 1)", x.dab(0, -1, 1), Due.BAD);
+        due.is("stays", x.strength(0, 0), 0);
+    }
+
+    private static void warm() {
+        ScentCloth x = new ScentCloth();
+        x.cloth();
+        due.is("warm(0, 50)", x.warm(0, 50), 0);
+        due.is("warm(0, 0)", x.warm(0, 0), 50);
+        due.is("warm(0, 51)", x.warm(0, 51), Due.BAD);
+        due.is("warm(0, -1)", x.warm(0, -1), Due.BAD);
+        due.is("warm(1, 0)", x.warm(1, 0), Due.BAD);
+        due.is("warm(-1, 0)", x.warm(-1, 0), Due.BAD);
+        due.is("stays", x.warm(0, 1), 0);
+    }
+
+    private static void touch() {
+        ScentCloth x = new ScentCloth();
+        x.cloth();
+        x.cloth();
+        x.cloth();
+        for (int i = 0; i < 4; i++) {
+            x.scent(0, 0);
+        }
+        x.dab(0, 0, 10);
+        x.dab(1, 0, 10);
+        x.dab(0, 1, 10);
+        x.dab(1, 1, 11);
+        x.dab(1, 2, 999);
+        x.dab(0, 3, 998);
+        x.dab(1, 3, 999);
+        x.dab(2, 0, 5);
+        due.is("touch(0, 1)", x.touch(0, 1), 0 + 1 + 2 + 1);
+        int[] half = {10, 10, 499, 998};
+        for (int s = 0; s < 4; s++) {
+            due.is("one's " + s, x.strength(0, s), half[s]);
+            due.is("the other's " + s, x.strength(1, s), half[s]);
+        }
+        due.is("a third one stays", x.strength(2, 0), 5);
+        due.is("again: nothing", x.touch(1, 0), 0);
+        due.is("itself", x.touch(1, 1), Due.BAD);
+        due.is("touch(0, 3)", x.touch(0, 3), Due.BAD);
+        due.is("touch(3, 0)", x.touch(3, 0), Due.BAD);
+        due.is("touch(-1, 0)", x.touch(-1, 0), Due.BAD);
+        due.is("touch(0, -1)", x.touch(0, -1), Due.BAD);
+    }
+
+    private static void days() {
+        ScentCloth x = new ScentCloth();
+        x.cloth();
+        x.cloth();
+        x.scent(0, 10);
+        x.scent(5, 10);
+        x.warm(1, 40);
+        for (int c = 0; c < 2; c++) {
+            x.dab(c, 0, 100);
+            x.dab(c, 1, 100);
+        }
+        due.is("days(3)", x.days(3), 3);
+        due.is("100, 89, 80, 71", x.strength(0, 0), 71);
+        due.is("warm: 100, 49, 24, 11", x.strength(1, 0), 11);
+        due.is("musk fades on day 1 alone", x.strength(0, 1), 89);
+        due.is("warm musk", x.strength(1, 1), 49);
+        due.is("days(0)", x.days(0), Due.BAD);
+        due.is("days(61)", x.days(61), Due.BAD);
+        due.is("days(-1)", x.days(-1), Due.BAD);
+        due.is("the day stays", x.count(3), 3);
+        due.is("days(60)", x.days(60), 63);
+    }
+
+    private static void lastDay() {
+        ScentCloth x = new ScentCloth();
+        x.cloth();
+        x.scent(0, 0);
+        for (int i = 0; i < 166; i++) {
+            x.days(60);
+        }
+        due.is("day 9960", x.count(3), 9960);
+        x.dab(0, 0, 999);
+        due.is("no further than 9999", x.days(60), 9999);
+        due.is("39 days lost", x.strength(0, 0), 960);
+        due.is("no more days", x.days(1), 9999);
+        due.is("nothing lost", x.strength(0, 0), 960);
+        due.is("thought goes on", x.dumb(0, 0), Due.NONE);
+        x.dab(0, 0, -930);
+        due.is("thought goes beyond the last day", x.dumb(0, 0), 21);
+    }
+}
