@@ -1136,7 +1136,7 @@ public final class ScentCloth {
             }
             if (end == at && at < length) {
                 end++;
-            } else if (at > 0 && at < length && isWordByte(tape[at - 1])) {
+            } else if (at > 0 && at < length && (isLetter(tape[at - 1]) || isDigit(tape[at - 1]))) {
                 fail();
             }
         }
@@ -1147,10 +1147,6 @@ public final class ScentCloth {
 
         private static boolean isDigit(int b) {
             return b >= '0' && b <= '9';
-        }
-
-        private static boolean isWordByte(int b) {
-            return isLetter(b) || isDigit(b);
         }
 
         private int keyHere() {

@@ -13,6 +13,7 @@ public final class ClothsTest {
         touch();
         days();
         lastDay();
+        fullHouse();
         due.end();
     }
 
@@ -146,14 +147,14 @@ public final class ClothsTest {
             x.scent(0, 0);
         }
         x.dab(0, 0, 10);
-        x.dab(1, 0, 10);
+        x.dab(1, 0, 11);
         x.dab(0, 1, 10);
-        x.dab(1, 1, 11);
+        x.dab(1, 1, 10);
         x.dab(1, 2, 999);
         x.dab(0, 3, 998);
         x.dab(1, 3, 999);
         x.dab(2, 0, 5);
-        due.is("touch(0, 1)", x.touch(0, 1), 0 + 1 + 2 + 1);
+        due.is("touch(0, 1)", x.touch(0, 1), 1 + 0 + 2 + 1);
         int[] half = {10, 10, 499, 998};
         for (int s = 0; s < 4; s++) {
             due.is("one's " + s, x.strength(0, s), half[s]);
@@ -207,5 +208,44 @@ public final class ClothsTest {
         due.is("thought goes on", x.dumb(0, 0), Due.NONE);
         x.dab(0, 0, -930);
         due.is("thought goes beyond the last day", x.dumb(0, 0), 21);
+    }
+
+    /** Every row filled to its last place: 9 scents, 6 cloths, 12 words, 24 places, 96 bytes. */
+    private static void fullHouse() {
+        ScentCloth x = new ScentCloth();
+        for (int s = 0; s < 9; s++) {
+            x.scent(0, 0);
+        }
+        for (int w = 0; w < 12; w++) {
+            x.word(w == 11 ? 511 : 1 + w);
+        }
+        for (int c = 0; c < 6; c++) {
+            x.cloth();
+            for (int s = 0; s < 9; s++) {
+                x.dab(c, s, 100 + c);
+            }
+        }
+        x.sheet(3, 1, 24);
+        Due.read(x, "fade 1" + "+0".repeat(45));
+        due.is("all strengths", x.count(4), 9 * 615);
+        due.is("smells of all", x.smells(5, 3), 511);
+        due.is("says the last word", x.says(5, 3), 11);
+        due.is("one each a day", x.days(5), 5);
+        due.is("all strengths then", x.count(4), 9 * 585);
+        due.is("touch", x.touch(5, 3), 18);
+        due.is("behind", x.behind(5, 0, 89), 11);
+        due.is("behind, one day more", x.behind(5, 0, 90), Due.NONE);
+        due.is("first", x.first(5, 0, 11), 0);
+        due.is("lasts", x.lasts(5, 0, 11, 200), 90);
+        due.is("whispers", x.whispers(5, 0, 200), 1);
+        due.is("dumb", x.dumb(5, 0), 90);
+        due.is("secret", x.secret(5, 89), 0);
+        due.is("dated", x.dated(3, 5, 8, 0), 99);
+        due.is("letter", x.letter(5, 11, 0, 100), 9 * 110);
+        due.is("pour", x.pour(5, 3), 9);
+        due.is("price", x.price(4), 9 * 99);
+        due.is("keep", x.keep(), 6);
+        due.is("check", x.check(5, 30), 1);
+        due.is("back", x.back(), 6);
     }
 }

@@ -100,7 +100,7 @@ public final class RowsTest {
         Due.read(x, "fade 0");
         tellAll(x, 0, 11, 0, 10, 99, 9);
         due.is("as the image has it", x.check(0, 3), 0);
-        x.nose(1, 1);
+        x.nose(1, 999);
         x.keep();
         tellAll(x, 0, 7);
         due.is("as the new image has it", x.check(0, 1), 0);

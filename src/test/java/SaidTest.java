@@ -92,6 +92,9 @@ public final class SaidTest {
         due.is("behind -1", x.behind(0, 0, -1), Due.BAD);
         x.dab(0, 0, -1);
         due.is("behind 300, one less", x.behind(0, 0, 300), Due.NONE);
+        x.warm(0, 50);
+        due.is("warm: 309, 154, 76, 37, 18, 8", x.behind(0, 0, 4), 0);
+        due.is("warm, one day more", x.behind(0, 0, 5), Due.NONE);
         due.is("behind(1, 0, 0)", x.behind(1, 0, 0), Due.BAD);
         due.is("behind(0, 4, 0)", x.behind(0, 4, 0), Due.BAD);
         due.is("behind(-1, 0, 0)", x.behind(-1, 0, 0), Due.BAD);
@@ -187,6 +190,7 @@ public final class SaidTest {
         due.is("0 and 1 smell both, 2 and 3 the first alone", x.secret(0, 0), 0b0011);
         due.is("behind 1 day 3 smells nothing", x.secret(0, 1), 0b1011);
         due.is("behind 11 days to 1 it says the first", x.secret(0, 11), 0b1001);
+        due.is("behind 40 days to 0 alone", x.secret(0, 40), 0b1110);
         due.is("behind 300", x.secret(0, 300), 15);
         due.is("n 301", x.secret(0, 301), Due.BAD);
         due.is("n -1", x.secret(0, -1), Due.BAD);
@@ -206,6 +210,11 @@ public final class SaidTest {
         due.is("the finest nose", x.least(0, 0, 2, 7), 8);
         x.nose(3, 999);
         due.is("the dullest one, today", x.least(0, 0, 3, 0), 999);
+        x.turns(0, 5);
+        due.is("musk, from day 0 on: 4 odd ones of 9", x.least(0, 0, 0, 9), 14);
+        x.days(7);
+        due.is("musk, from day 7 on: 5 odd ones of 9", x.least(0, 0, 0, 9), 15);
+        x.turns(0, 0);
         due.is("n 101", x.least(0, 0, 0, 101), Due.BAD);
         due.is("n -1", x.least(0, 0, 0, -1), Due.BAD);
         due.is("scent 1", x.least(0, 1, 0, 0), Due.BAD);
@@ -310,6 +319,12 @@ public final class SaidTest {
         x.mark(0, 1, 479);
         x.mark(0, 2, 475);
         due.is("n", x.dated(0, 0, 0, 0), 20);
+        x.sheet(2, 0, 1);
+        for (int n = 0; n < 3; n++) {
+            x.mark(2, 0, 500 - n);
+            due.is("n " + n, x.dated(2, 0, 0, 0), n);
+            due.is("right at " + n, x.dated(2, 0, 0, 1), 0);
+        }
         due.is("differences", x.dated(0, 0, 0, 1), 3);
         x.mark(0, 2, 478);
         due.is("no differences", x.dated(0, 0, 0, 1), 0);

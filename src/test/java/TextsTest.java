@@ -70,6 +70,10 @@ public final class TextsTest {
         fault("fade", 4);
         fault("fade  ", 6);
         fault("fades s", 0);
+        fault("fadez", 0);
+        fault("fadea", 0);
+        fault("fade s0", 6);
+        fault("fade s9", 6);
         fault(" fad s", 1);
         fault("Fade s", 0);
         fault("s", 0);
@@ -179,6 +183,17 @@ public final class TextsTest {
         due.is("an empty tape", x.text(), -100);
         Due.read(x, "lie 5");
         due.is("once more, without bytes", x.text(), -100);
+        x.feed(0x6c696520, 0x352b3939, 0x39393939);
+        x.trim(6);
+        due.is("'lie 5+', digits trimmed away", x.text(), -106);
+        x.feed(0x6c696520, 0x352b3939, 0x39393939);
+        x.trim(7);
+        due.is("'lie 5+9', digits trimmed away", x.text(), 1);
+        x.cloth();
+        due.is("5 and 9", x.lie(0), 14);
+        x.feed(0x6c696520, 0x35202020, 0x29292929);
+        x.trim(6);
+        due.is("'lie 5 ', brackets trimmed away", x.text(), 2);
     }
 
     /** What a lie gives on day 7 with no word said. */
