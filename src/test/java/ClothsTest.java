@@ -244,6 +244,8 @@ public final class ClothsTest {
         due.is("letter", x.letter(5, 11, 0, 100), 9 * 110);
         due.is("pour", x.pour(5, 3), 9);
         due.is("price", x.price(4), 9 * 99);
+        Due.read(x, "price n");
+        due.is("price by how many", x.price(4), 9);
         due.is("keep", x.keep(), 6);
         due.is("check", x.check(5, 30), 1);
         due.is("back", x.back(), 6);

@@ -71,6 +71,9 @@ public final class TextsTest {
         fault("fade  ", 6);
         fault("fades s", 0);
         fault("fadez", 0);
+        fault("jade s", 0);
+        fault("lies d", 0);
+        fault("pie d", 0);
         fault("fadea", 0);
         fault("fade s0", 6);
         fault("fade s9", 6);
@@ -279,6 +282,8 @@ public final class TextsTest {
         due.is("strength", x.loses(0, 0), 898);
         Due.read(x, "price t+n*1000");
         due.is("strengths and how many", x.price(0), 1900);
+        Due.read(x, "fade 0");
+        due.is("0 is a number, no name", x.loses(0, 0), 0);
     }
 
     private static void textTold() {
