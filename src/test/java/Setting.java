@@ -87,7 +87,7 @@ enum Setting {
     String callsWithout(String name) {
         List<String> left = new ArrayList<>();
         for (String call : calls().split(";")) {
-            if (!call.stripLeading().startsWith(name + " ")) {
+            if (!(call.strip() + " ").startsWith(name + " ")) {
                 left.add(call);
             }
         }

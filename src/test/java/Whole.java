@@ -70,7 +70,8 @@ final class Whole {
 
     private static String things() {
         StringBuilder look = new StringBuilder();
-        each(look, "count %d;", 9);
+        each(look, "count %d;", 6);
+        look.append("count 8;");
         for (int what = 0; what < 4; what++) {
             each(look, "told %d " + what + ";", SCENTS);
         }
