@@ -91,7 +91,7 @@ public final class RefusedTest {
             }
             String[] range = words[i].split("\\.\\.|:");
             int low = Integer.parseInt(range[0]);
-            int high = last(setting, range[1]);
+            int high = setting.last(range[1]);
             for (int v : new int[] {low - 1, high + 1, Integer.MIN_VALUE, Integer.MAX_VALUE}) {
                 refused(setting, callWith(words, i, v), Due.BAD);
             }
@@ -100,18 +100,6 @@ public final class RefusedTest {
                 due.holds(setting + ": " + call + " is not BAD", answer(setting.calls(), call) != Due.BAD);
             }
         }
-    }
-
-    private static int last(Setting setting, String bound) {
-        return switch (bound) {
-            case "S" -> setting.scents - 1;
-            case "C" -> setting.cloths - 1;
-            case "W" -> setting.words - 1;
-            case "T" -> setting.texts - 1;
-            case "A" -> (1 << setting.scents) - 1;
-            case "L" -> setting.tape;
-            default -> Integer.parseInt(bound);
-        };
     }
 
     private static String callWith(String[] words, int place, int v) {

@@ -83,6 +83,19 @@ enum Setting {
         return calls;
     }
 
+    /** A bound as a number: S, C, W, T the last SCENT, CLOTH, WORD, TEXT; A all SCENTS as a set; L the tape's bytes. */
+    int last(String bound) {
+        return switch (bound) {
+            case "S" -> scents - 1;
+            case "C" -> cloths - 1;
+            case "W" -> words - 1;
+            case "T" -> texts - 1;
+            case "A" -> (1 << scents) - 1;
+            case "L" -> tape;
+            default -> Integer.parseInt(bound);
+        };
+    }
+
     /** The same without its calls of one name: what it would be like if none of them had been made. */
     String callsWithout(String name) {
         List<String> left = new ArrayList<>();
