@@ -14,6 +14,16 @@ public final class ClothsTest {
         days();
         lastDay();
         fullHouse();
+        laterScents();
+        losesCut();
+        losesHeld();
+        halves();
+        lightAtMost();
+        lemonAtMost();
+        muskByDay();
+        dabHeld();
+        touchHalves();
+        muskOnTheLastDays();
         due.end();
     }
 
@@ -249,5 +259,187 @@ public final class ClothsTest {
         due.is("keep", x.keep(), 6);
         due.is("check", x.check(5, 30), 1);
         due.is("back", x.back(), 6);
+    }
+
+    /** "of each SCENT a STRENGTH 0 .. 999 (0 at first; of SCENTS that come later, too)" */
+    private static void laterScents() {
+        ScentCloth x = new ScentCloth();
+        x.cloth();
+        x.keep();
+        for (int again = 0; again < 2; again++) {
+            for (int s = 0; s < 9; s++) {
+                due.is("not there yet: " + s, x.strength(0, s), Due.BAD);
+                x.scent(0, 0);
+                due.is("0 at first: " + s, x.strength(0, s), 0);
+                x.dab(0, s, 900);
+            }
+            x.cloth();
+            due.is("0 on a later cloth", x.strength(1, 8), 0);
+            due.is("which is not warm", x.warm(1, 50), 0);
+            x.dab(1, 8, 5);
+            x.back();
+        }
+    }
+
+    private static ScentCloth spot(int kind, int pace, int warm, int strength) {
+        ScentCloth x = new ScentCloth();
+        x.cloth();
+        x.scent(kind, pace);
+        x.warm(0, warm);
+        x.dab(0, 0, strength);
+        return x;
+    }
+
+    /** "STRENGTH times PACE and WARM together, by 100 (cut), and 1; STRENGTH at most" */
+    private static void losesCut() {
+        int[][] rows = {{0, 50, 50, 0}, {1, 0, 0, 1}, {1, 50, 50, 1}, {2, 50, 0, 2}, {2, 49, 0, 1}, {3, 50, 0, 2}, {99, 1, 0, 1},
+            {100, 1, 0, 2}, {100, 0, 1, 2}, {199, 0, 1, 2}, {200, 0, 1, 3}, {100, 50, 49, 100}, {101, 50, 49, 100},
+            {998, 50, 50, 998}, {999, 50, 50, 999}, {999, 50, 49, 990}, {999, 0, 0, 1}};
+        for (int[] r : rows) {
+            String told = "STRENGTH " + r[0] + ", PACE " + r[1] + ", WARM " + r[2];
+            ScentCloth x = spot(0, r[1], r[2], r[0]);
+            due.is(told, x.loses(0, 0), r[3]);
+            x.days(1);
+            due.is(told + ", left", x.strength(0, 0), r[0] - r[3]);
+        }
+    }
+
+    /** "SCENT: what fade gives, held within 0 .. STRENGTH" */
+    private static void losesHeld() {
+        String[] texts = {"fade 0-1", "fade 0", "fade 1", "fade s-1", "fade s", "fade s+1", "fade 2048*1024*1024-1",
+            "fade 2048*1024*1024", "fade 9999*9999*9999", "fade 9999*9999*43"};
+        int[] plain = {0, 0, 1, 99, 100, 100, 100, 0, 0, 100};
+        int[] light = {7, 7, 8, 100, 100, 100, 100, 7, 7, 100};
+        int[] heavy = {0, 0, 0, 49, 50, 50, 50, 0, 0, 50};
+        for (int i = 0; i < texts.length; i++) {
+            int[][] want = {{0, plain[i]}, {1, heavy[i]}, {2, light[i]}, {3, Math.max(0, heavy[i] - 1)}};
+            for (int[] w : want) {
+                ScentCloth x = spot(w[0], 7, 0, 100);
+                Due.read(x, texts[i]);
+                due.is(texts[i] + ", kind " + w[0], x.loses(0, 0), w[1]);
+            }
+        }
+        ScentCloth nothing = spot(0, 7, 0, 0);
+        Due.read(nothing, "fade 1");
+        due.is("of STRENGTH 0", nothing.loses(0, 0), 0);
+        due.is("this wraps to a number below 0", 9999 * 9999 * 9999, -1027349969);
+        due.is("and this beyond it, to one above 0", 9999 * 9999 * 43, 4172747);
+    }
+
+    /** "HEAVY: half (cut) of as SCENT. AMBER: as HEAVY, less 1 (0 at least)." */
+    private static void halves() {
+        int[] heavy = {0, 0, 1, 1, 2, 2, 3};
+        int[] amber = {0, 0, 0, 0, 1, 1, 2};
+        for (int plain = 0; plain < heavy.length; plain++) {
+            ScentCloth h = spot(1, 50, plain, 100);
+            Due.read(h, "fade w");
+            due.is("HEAVY, of " + plain, h.loses(0, 0), heavy[plain]);
+            h.turns(0, 3);
+            due.is("AMBER, of " + plain, h.loses(0, 0), amber[plain]);
+        }
+    }
+
+    /** "LIGHT: as SCENT, and PACE (STRENGTH at most)." */
+    private static void lightAtMost() {
+        int[] warm = {0, 12, 13, 14, 50};
+        int[] lost = {7, 19, 20, 20, 20};
+        for (int i = 0; i < warm.length; i++) {
+            ScentCloth x = spot(2, 7, warm[i], 20);
+            Due.read(x, "fade w");
+            due.is("LIGHT, of " + warm[i] + " and 7", x.loses(0, 0), lost[i]);
+        }
+        due.is("PACE above STRENGTH", spot(2, 50, 0, 3).loses(0, 0), 3);
+        due.is("of nothing", spot(2, 50, 0, 0).loses(0, 0), 0);
+    }
+
+    /** "LEMON: twice as LIGHT (STRENGTH at most)." */
+    private static void lemonAtMost() {
+        int[] warm = {0, 7, 8, 9, 17, 18, 19};
+        int[] lost = {4, 18, 20, 21, 21, 21, 21};
+        for (int i = 0; i < warm.length; i++) {
+            ScentCloth x = spot(4, 2, warm[i], 21);
+            Due.read(x, "fade w");
+            due.is("LEMON, twice " + warm[i] + " and 2", x.loses(0, 0), lost[i]);
+        }
+        due.is("twice 499 and 0", spot(4, 0, 49, 999).loses(0, 0), 980);
+        due.is("twice 500 and 0", spot(4, 0, 50, 999).loses(0, 0), 999);
+        due.is("of nothing", spot(4, 50, 50, 0).loses(0, 0), 0);
+    }
+
+    /** "MUSK: as SCENT, if THE DAY is odd, else 0." THE DAY is that on which it fades. */
+    private static void muskByDay() {
+        ScentCloth x = spot(5, 0, 0, 100);
+        int[] left = {100, 99, 99, 98, 98};
+        for (int day = 0; day < left.length; day++) {
+            due.is("on DAY " + day, x.loses(0, 0), day % 2);
+            x.days(1);
+            due.is("behind DAY " + day, x.strength(0, 0), left[day]);
+        }
+    }
+
+    /** "n (-999 .. 999) of a SCENT come to a CLOTH, held within 0 .. 999" */
+    private static void dabHeld() {
+        int[][] rows = {{998, 1, 999}, {998, 2, 999}, {999, 999, 999}, {1, -1, 0}, {1, -2, 0}, {999, -999, 0}, {0, 999, 999},
+            {0, -999, 0}, {500, 499, 999}, {500, 500, 999}, {500, -500, 0}, {500, -501, 0}};
+        for (int[] r : rows) {
+            ScentCloth x = spot(0, 0, 0, r[0]);
+            due.is(r[0] + " and " + r[1], x.dab(0, 0, r[1]), r[2]);
+            due.is(r[0] + " and " + r[1] + ", then", x.strength(0, 0), r[2]);
+        }
+    }
+
+    /** "of each SCENT both have half (cut) of the sum of both STRENGTHS then" */
+    private static void touchHalves() {
+        int[][] rows = {{0, 0, 0, 0}, {0, 1, 0, 1}, {1, 0, 0, 1}, {1, 1, 1, 0}, {1, 2, 1, 1}, {0, 2, 1, 2}, {999, 999, 999, 0},
+            {999, 998, 998, 1}, {0, 999, 499, 2}};
+        for (int[] r : rows) {
+            ScentCloth x = spot(0, 0, 0, r[0]);
+            x.cloth();
+            x.dab(1, 0, r[1]);
+            due.is(r[0] + " touches " + r[1], x.touch(0, 1), r[3]);
+            due.is("one then", x.strength(0, 0), r[2]);
+            due.is("the other one then", x.strength(1, 0), r[2]);
+        }
+        ScentCloth none = new ScentCloth();
+        none.cloth();
+        none.cloth();
+        due.is("no SCENTS", none.touch(1, 0), 0);
+        ScentCloth all = new ScentCloth();
+        all.deal(9);
+        for (int c = 0; c < 6; c++) {
+            all.cloth();
+        }
+        for (int s = 0; s < 9; s++) {
+            all.dab(5, s, 2 + s);
+        }
+        due.is("nine of both", all.touch(0, 5), 18);
+        due.is("the ninth", all.strength(0, 8), 5);
+        due.is("others do not touch", all.strength(4, 8), 0);
+        due.is("half of each is gone with what was cut", all.count(4), 2 * (1 + 1 + 2 + 2 + 3 + 3 + 4 + 4 + 5));
+    }
+
+    /** "THE DAY is 0 at first, 9999 at most", "n (1 .. 60) DAYS (no more than up to 9999)" */
+    private static void muskOnTheLastDays() {
+        ScentCloth x = new ScentCloth();
+        due.is("0 at first", x.count(3), 0);
+        x.cloth();
+        x.scent(5, 0);
+        for (int i = 0; i < 166; i++) {
+            x.days(60);
+        }
+        due.is("9997", x.days(37), 9997);
+        x.dab(0, 0, 50);
+        due.is("9997 is odd", x.loses(0, 0), 1);
+        due.is("9998", x.days(1), 9998);
+        due.is("9998 is even", x.loses(0, 0), 0);
+        due.is("one day of two", x.days(2), 9999);
+        due.is("it did not fade on 9998", x.strength(0, 0), 49);
+        due.is("9999 is odd", x.loses(0, 0), 1);
+        due.is("but does not pass", x.days(60), 9999);
+        due.is("it is all there", x.strength(0, 0), 49);
+        x.nose(0, 49);
+        x.word(1);
+        due.is("in thought it passes", x.behind(0, 0, 1), Due.NONE);
+        due.is("today it says still", x.behind(0, 0, 0), 0);
     }
 }

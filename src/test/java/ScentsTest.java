@@ -15,6 +15,12 @@ public final class ScentsTest {
         wordOf();
         deal();
         seed();
+        edgesOfKinds();
+        hidesAsBits();
+        hidesStay();
+        wordsOfLaterScents();
+        lastRoomForDeal();
+        drawsWrap();
         due.end();
     }
 
@@ -220,5 +226,103 @@ public final class ScentsTest {
         x.deal(1);
         due.is("0 draws 12345, then once more", x.count(8), 12345 * 1103515245 + 12345);
         due.is("kind", x.told(0, 0), (12345 >>> 8) % 6);
+    }
+
+    /** "of KINDS: 0 SCENT; 1 HEAVY, 2 LIGHT, 5 MUSK, under SCENT; 3 AMBER, under HEAVY; 4 LEMON, under LIGHT" */
+    private static void edgesOfKinds() {
+        ScentCloth x = new ScentCloth();
+        due.is("the first kind", x.scent(0, 50), 0);
+        due.is("the last kind", x.scent(5, 0), 1);
+        due.is("turns to the last one", x.turns(0, 5), 0);
+        due.is("it is a MUSK", x.as(0, 5), 50);
+        due.is("turns to the first one", x.turns(0, 0), 5);
+        due.is("it is none any more", x.as(0, 5), Due.KIND);
+        due.is("nor one under HEAVY", x.as(0, 3), Due.KIND);
+        x.turns(0, 1);
+        due.is("HEAVY is no AMBER", x.as(0, 3), Due.KIND);
+        x.turns(0, 2);
+        due.is("LIGHT is no LEMON", x.as(0, 4), Due.KIND);
+        x.turns(0, 3);
+        due.is("AMBER is HEAVY", x.as(0, 1), 50);
+        due.is("AMBER is not LIGHT", x.as(0, 2), Due.KIND);
+        x.pace(0, 0);
+        due.is("PACE 0 is told, too", x.as(0, 0), 0);
+    }
+
+    /** "Sets of SCENTS and of NOSES are told as bits (bit k for number k)." */
+    private static void hidesAsBits() {
+        ScentCloth x = new ScentCloth();
+        x.deal(9);
+        for (int k = 1; k < 9; k++) {
+            due.is("not at first", x.hide(0, k, 1), 0);
+            due.is("bits 1 to " + k, x.told(0, 3), (2 << k) - 2);
+        }
+        for (int k = 0; k < 8; k++) {
+            x.hide(8, k, 1);
+            due.is("bit " + k, x.told(8, 3), 1 << k);
+            x.hide(8, k, 0);
+        }
+        due.is("none any more", x.told(8, 3), 0);
+        due.is("others are as they were", x.told(0, 3), 510);
+    }
+
+    private static void hidesStay() {
+        ScentCloth x = new ScentCloth();
+        x.scent(0, 0);
+        x.scent(0, 0);
+        x.hide(0, 1, 1);
+        x.turns(0, 5);
+        x.turns(1, 4);
+        x.pace(0, 9);
+        due.is("of another kind, it hides the same", x.told(0, 3), 2);
+        due.is("and is not hidden by what it hides", x.told(1, 3), 0);
+    }
+
+    /** "a set of SCENTS each (those that are there; not empty)" */
+    private static void wordsOfLaterScents() {
+        ScentCloth x = new ScentCloth();
+        for (int k = 0; k < 9; k++) {
+            due.is("SCENT " + k + " is not there yet", x.word(1 << k), Due.BAD);
+            x.scent(0, 0);
+            due.is("now it is", x.word(1 << k), k);
+            due.is("its set", x.wordOf(k), 1 << k);
+        }
+        due.is("no tenth one", x.word(1 << 9), Due.BAD);
+        due.is("all but the first", x.word(510), 9);
+        due.is("a set once more", x.word(510), 10);
+        due.is("the twelfth", x.word(511), 11);
+        due.is("told", x.wordOf(11), 511);
+        due.is("none behind it", x.wordOf(12), Due.BAD);
+    }
+
+    /** "as many as there is room for (no draws for others)" */
+    private static void lastRoomForDeal() {
+        ScentCloth x = new ScentCloth();
+        due.is("eight of nine", x.deal(8), 8);
+        x.seed(0);
+        due.is("room for one", x.deal(9), 1);
+        due.is("two draws", x.count(8), -740551042);
+        due.is("KIND 48 by 6", x.told(8, 0), 0);
+        due.is("PACE 13884438 by 51", x.told(8, 1), 45);
+        due.is("no room", x.deal(9), 0);
+        due.is("no draw", x.count(8), -740551042);
+        ScentCloth y = new ScentCloth();
+        due.is("nine at once", y.deal(9), 9);
+    }
+
+    /** "z becomes z * 1103515245 + 12345 (an int); it gives z >>> 8" */
+    private static void drawsWrap() {
+        int[] seeds = {1, -1, Integer.MIN_VALUE, Integer.MAX_VALUE, 3};
+        int[] kinds = {2, 1, 2, 5, 1};
+        int[] paces = {44, 45, 19, 20, 43};
+        int[] then = {-1770082073, 288979989, 1406932606, -1858503659, 465823161};
+        for (int i = 0; i < seeds.length; i++) {
+            ScentCloth x = new ScentCloth();
+            due.is("z is 1 at first", x.seed(seeds[i]), 1);
+            x.deal(1);
+            due.is("KIND by seed " + seeds[i], x.told(0, 0), kinds[i]);
+            due.is("PACE by seed " + seeds[i], x.told(0, 1), paces[i]);
+            due.is("z behind seed " + seeds[i], x.count(8), then[i]);
+        }
     }
 }
