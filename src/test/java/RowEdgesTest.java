@@ -13,6 +13,9 @@ public final class RowEdgesTest {
         lastDaysOfTheImage();
         noneWaitThen();
         imageIsNotNow();
+        textsComeAnew();
+        lawsOfTheImage();
+        fullAndEmptyAgain();
         keepTells();
         countsAtMost();
         due.end();
@@ -211,6 +214,73 @@ public final class RowEdgesTest {
         due.is("THE DAY then", x.count(3), 0);
         tellDays(x, 60);
         due.is("and right again", x.check(0, 30), 0);
+    }
+
+    /** "all can become as it is (again and again)": a TEXT that takes a lost one's number has nothing of it. */
+    private static void textsComeAnew() {
+        String[] lost = {"lie !1", "lie 1+2", "lie !!!d", "lie (1-2)*3", "lie 1+2*3-4/5&6|!7", "price t*n", "fade 0-s"};
+        for (String text : lost) {
+            ScentCloth x = new ScentCloth();
+            x.cloth();
+            x.keep();
+            due.is("'" + text + "'", Due.read(x, text), 0);
+            x.back();
+            due.is("it is gone", x.textTold(0, 0), Due.BAD);
+            due.is("its number comes again", Due.read(x, "lie 5"), 0);
+            due.is("'lie 5' behind '" + text + "'", x.lie(0), 5);
+            due.is("one NUMBER", x.textTold(0, 1), 1);
+            due.is("of KEY lie", x.textTold(0, 0), 2);
+            due.is("none of fade", x.why(0), Due.NONE);
+            due.is("none of price", x.why(1), Due.NONE);
+        }
+    }
+
+    /** "THE DAYS TOLD of a CLOTH: .. by THE IMAGE": by the fade that counts in it, whatever TEXTS came and went since. */
+    private static void lawsOfTheImage() {
+        ScentCloth x = new ScentCloth();
+        x.cloth();
+        x.scent(0, 50);
+        x.dab(0, 0, 100);
+        x.word(1);
+        Due.read(x, "fade 1");
+        x.keep();
+        Due.read(x, "fade s");
+        tellDays(x, 60);
+        due.is("a later fade does not matter", x.check(0, 30), 0);
+        x.back();
+        Due.read(x, "fade !s*9");
+        tellDays(x, 60);
+        due.is("nor one that took its number", x.check(0, 30), 0);
+        due.is("which counts now", x.loses(0, 0), 0);
+        x.keep();
+        tellDays(x, 2);
+        due.is("and in the next IMAGE", x.check(0, 1), 2);
+    }
+
+    /** What was FULL has room again behind back, up to the same bound. */
+    private static void fullAndEmptyAgain() {
+        ScentCloth x = new ScentCloth();
+        x.keep();
+        for (int again = 0; again < 3; again++) {
+            due.is("nine SCENTS", x.deal(9), 9);
+            due.is("no tenth", x.scent(0, 0), Due.FULL);
+            for (int i = 0; i < 6; i++) {
+                due.is("CLOTH " + i, x.cloth(), i);
+            }
+            due.is("no seventh", x.cloth(), Due.FULL);
+            for (int i = 0; i < 12; i++) {
+                due.is("WORD " + i, x.word(511), i);
+            }
+            due.is("no thirteenth", x.word(511), Due.FULL);
+            for (int i = 0; i < 14; i++) {
+                due.is("TEXT " + i, Due.read(x, "lie " + i), i);
+            }
+            due.is("no fifteenth", Due.read(x, "lie 1"), Due.FULL);
+            due.is("back to nothing", x.back(), 0);
+            due.is("no SCENTS, so no WORD", x.word(1), Due.BAD);
+            due.is("no TEXTS", x.why(2), Due.NONE);
+            due.is("z as it was", x.count(8), 1);
+        }
     }
 
     /** "AN IMAGE is kept: how many CLOTHS."; "All is as THE IMAGE: how many CLOTHS. NO: there is none." */
