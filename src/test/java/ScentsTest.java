@@ -226,6 +226,11 @@ public final class ScentsTest {
         x.deal(1);
         due.is("0 draws 12345, then once more", x.count(8), 12345 * 1103515245 + 12345);
         due.is("kind", x.told(0, 0), (12345 >>> 8) % 6);
+        for (int v : new int[] {Due.BAD, Due.NO, Due.FULL, Due.NONE}) {
+            x.seed(v);
+            due.is("z may be any number", x.count(8), v);
+            due.is("what it was, also if it looks refused", x.seed(0), v);
+        }
     }
 
     /** "of KINDS: 0 SCENT; 1 HEAVY, 2 LIGHT, 5 MUSK, under SCENT; 3 AMBER, under HEAVY; 4 LEMON, under LIGHT" */
